@@ -210,6 +210,14 @@ public final class PromisesTest {
         faultAt("at 0 up up", 8);
         faultAt("at 0 up 1 2", 10);
         faultAt("at up 1", 3);
+        faultAt("at", 2);
+        faultAt("at;at 0 up 1", 2);
+        faultAt("at 0", 4);
+        faultAt("at 0;at 0 up 1", 4);
+        faultAt("at 0 upz 1", 5);
+        faultAt("at 0 aup 1", 5);
+        faultAt("axis;at 0 up 1", 4);
+        faultAt("axis 3;at 0 up 1", 6);
         faultAt("axis 2 10;at 2 up 1", 13);
         faultAt("axis 2 10;up 1 2 3", 17);
         String many = "at0up1";
@@ -283,6 +291,14 @@ public final class PromisesTest {
     }
 
     private static void runs(AxisTable x) {
+        due("run(1, 0, 9)", x.run(1, 0, 9), 1);
+        due("run(1, 0, 8)", x.run(1, 0, 8), 2);
+        for (int k = 0; k < 6; k++) {
+            x.run(0, 1, k);
+        }
+        due("run, seventh", x.run(0, 1, 7), 6);
+        due("the next ones stay", x.runAt(1, 0, 0), 9);
+        due("the next ones stay", x.runAt(1, 0, 1), 8);
         for (int k = 0; k < 6; k++) {
             due("run", x.run(2, 1, k), k + 1);
         }
@@ -290,7 +306,7 @@ public final class PromisesTest {
         due("oldest", x.runAt(2, 1, 0), 1);
         due("newest", x.runAt(2, 1, 5), -40);
         due("run(0, 0, 40)", x.run(0, 0, 40), 1);
-        due("told(8)", x.told(8), 7);
+        due("told(8)", x.told(8), 15);
         due("told(11)", x.told(11), 8);
         refused(x, "run(-1, 2, 41)", () -> x.run(-1, 2, 41), UNKNOWN);
         refused(x, "run(3, 0, 0)", () -> x.run(3, 0, 0), UNKNOWN);
@@ -374,6 +390,8 @@ public final class PromisesTest {
         due("turns", x.told(5), 1);
         due("travel", x.told(6), travel);
         due("went down", x.told(7), 0);
+        due("table", x.table(0, 0), -2);
+        due("sheet", sheetOf(x), "0:-2;1:+0;2:+0;p1");
         due("runs", x.told(8), 1);
         due("runAt", x.runAt(0, 0, 0), 4);
         due("told(11)", x.told(11), 0);
