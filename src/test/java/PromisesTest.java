@@ -1,83 +1,7 @@
-import java.util.function.Consumer;
-
 /** Each promise of the document by itself: ordinary inputs, the edges that it names, wrong inputs. */
-public final class PromisesTest {
-    private static final int NONE = -100000, UNKNOWN = -100001, OUTSIDE = -100002, NOT = -100003, FULL = -100004;
-    private static final int NULL = -100011, INDEX = -100012, ROOM = -100013, NUMBER = -100014;
-    private static final int LEAST = Integer.MIN_VALUE, MOST = Integer.MAX_VALUE;
-
-    private static int checks = 0;
-    private static int wrong = 0;
-    private static String about = "";
-
-    private static void due(String call, int got, int want) {
-        checks++;
-        if (got != want) {
-            wrong++;
-            System.out.println(about + ": " + call + " answered " + got + ", due is " + want);
-        }
-    }
-
-    private static void due(String call, String got, String want) {
-        checks++;
-        if (!got.equals(want)) {
-            wrong++;
-            System.out.println(about + ": " + call + " gave " + got + ", due is " + want);
-        }
-    }
-
-    private static void promise(int number, Consumer<AxisTable> test) {
-        about = "promise " + number;
-        try {
-            test.accept(new AxisTable());
-        } catch (RuntimeException thrown) {
-            wrong++;
-            System.out.println(about + ": threw " + thrown);
-        }
-    }
-
-    private static void say(AxisTable x, String text) {
-        for (int k = 0; k < text.length(); k++) {
-            x.write(text.charAt(k));
-        }
-    }
-
-    private static AxisTable told(String text) {
-        AxisTable x = new AxisTable();
-        say(x, text);
-        due("axis of " + text, x.axis() > 0 ? 1 : 0, 1);
-        return x;
-    }
-
-    private static void spell(AxisTable x, int label, String letters) {
-        x.label(label);
-        for (int k = 0; k < letters.length(); k++) {
-            x.insert(label, k, letters.charAt(k));
-        }
-    }
-
-    private static String read(AxisTable x, int label) {
-        StringBuilder letters = new StringBuilder();
-        for (int k = 0; x.letter(label, k) >= 0; k++) {
-            letters.append((char) x.letter(label, k));
-        }
-        return letters.toString();
-    }
-
-    private static String sheetOf(AxisTable x) {
-        StringBuilder letters = new StringBuilder();
-        for (int k = 0; x.sheet(k) != NONE; k++) {
-            letters.append((char) x.sheet(k));
-        }
-        return letters.toString();
-    }
-
-    private static String fraction(AxisTable x, int point, int what) {
-        return x.point(point, what, 0) + "/" + x.point(point, what, 1);
-    }
-
-    private static String playOf(AxisTable x) {
-        return x.play(0) + "/" + x.play(1);
+public final class PromisesTest extends Checks {
+    private static void promise(int number, java.util.function.Consumer<AxisTable> test) {
+        check("promise " + number, test);
     }
 
     /** All that can be asked without changing anything: two of these are alike if nothing changed. */
@@ -142,15 +66,6 @@ public final class PromisesTest {
         due("told(12)", x.told(12), 0);
         due("erase again", x.erase(), 0);
         due("write", x.write('a'), 1);
-    }
-
-    private static void faultAt(String text, int want) {
-        AxisTable x = new AxisTable();
-        say(x, text);
-        due("fault of '" + text + "'", x.fault(), want);
-        due("told(12) behind fault", x.told(12), text.length());
-        due("told(8) behind fault", x.told(8), 0);
-        due("told(0) behind fault", x.told(0), 3);
     }
 
     private static void faults(AxisTable x) {
@@ -856,9 +771,6 @@ public final class PromisesTest {
         promise(30, PromisesTest::words);
         promise(31, PromisesTest::values);
         promise(32, PromisesTest::dropping);
-        System.out.println(checks + " checks, " + wrong + " wrong");
-        if (wrong != 0) {
-            System.exit(1);
-        }
+        finish();
     }
 }
