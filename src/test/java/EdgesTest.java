@@ -97,6 +97,27 @@ public final class EdgesTest extends Checks {
         due("again", x.fault(), 20);
     }
 
+    /** What an earlier text would have made of the axis counts for nothing in the next. */
+    private static void faultReadsAnew(AxisTable x) {
+        say(x, "axis 5 10;at 4 up 1;left");
+        due("fault", x.fault(), 20);
+        x.erase();
+        say(x, "up 1 2 3");
+        due("three points yet", x.fault(), -1);
+        x.erase();
+        say(x, "at 3 up 1");
+        due("three points yet", x.fault(), 3);
+        due("axis", x.axis(), NOT);
+        x.erase();
+        say(x, "axis 2 10;left");
+        due("axis", x.axis(), NOT);
+        x.erase();
+        say(x, "at 2 up 1");
+        due("three points yet", x.fault(), -1);
+        due("axis", x.axis(), 1);
+        due("runs", x.told(8), 1);
+    }
+
     private static void axisAnswersHowMany(AxisTable x) {
         say(x, "at 0 up 1");
         due("one", x.axis(), 1);
@@ -680,6 +701,9 @@ public final class EdgesTest extends Checks {
             wordOf(x, words[k].substring(1), NONE);
             wordOf(x, words[k].substring(0, words[k].length() - 1), NONE);
             wordOf(x, words[k].toUpperCase(), NONE);
+            for (int place = 0; place < words[k].length(); place++) {
+                wordOf(x, words[k].substring(0, place) + "z" + words[k].substring(place + 1), NONE);
+            }
         }
         wordOf(x, "", NONE);
         wordOf(x, "0", NONE);
@@ -772,6 +796,7 @@ public final class EdgesTest extends Checks {
         check("erase: empty, full", EdgesTest::eraseEmptyAndFull);
         check("erase: the text alone", EdgesTest::eraseChangesNothingElse);
         check("fault: nothing changes", EdgesTest::faultChangesNothing);
+        check("fault: read anew", EdgesTest::faultReadsAnew);
         check("axis: how many there were", EdgesTest::axisAnswersHowMany);
         check("axis: NOT", EdgesTest::axisNotWithAFault);
         check("run: how many there are", EdgesTest::runCounts);

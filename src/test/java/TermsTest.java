@@ -96,17 +96,33 @@ public final class TermsTest extends Checks {
 
     private static void sixOfEachPointAndWay(AxisTable x) {
         done(x, "axis 8 10");
-        String[] rows = {"1 2 3 4 5 6 7 8", "-1-2-3-4-5-6-7-8"};
         for (int k = 0; k < 6; k++) {
-            done(x, "up " + rows[0] + ";down " + rows[1]);
+            done(x, "up 1 2 3 4 5 6 7 " + (k + 8) + ";down " + (k + 1) + "-2-3-4-5-6-7-8");
         }
         due("six of all sixteen", x.told(8), 96);
         done(x, "up 9 9 9 9 9 9 9 9");
         due("six of all sixteen yet", x.told(8), 96);
         for (int point = 0; point < 8; point++) {
             int err = point + 1;
-            due("from below", runsOf(x, point, 0), (err + " ").repeat(5) + "9");
-            due("from above", runsOf(x, point, 1), rowOf("-" + err, " ", 6));
+            due("from below", runsOf(x, point, 0), point == 7 ? "9 10 11 12 13 9" : (err + " ").repeat(5) + "9");
+            due("from above", runsOf(x, point, 1), point == 0 ? "1 2 3 4 5 6" : rowOf("-" + err, " ", 6));
+        }
+    }
+
+    /** The run that goes is of that point and way alone, be it the first of all sixteen or the last. */
+    private static void theOldestOfOneAlone(AxisTable x) {
+        done(x, "axis 8 10;up 1 2 3 4 5 6 7 8;up 11 12 13 14 15 16 17 18;down 21 22 23 24 25 26 27 28;down 1 2 3 4 5 6 7 8");
+        int[][] slots = {{7, 1}, {7, 0}, {0, 1}, {0, 0}, {4, 1}};
+        for (int[] slot : slots) {
+            for (int k = 0; k < 6; k++) {
+                x.run(slot[0], slot[1], 30 + k);
+            }
+            due("six", runsOf(x, slot[0], slot[1]), "30 31 32 33 34 35");
+        }
+        due("told(8)", x.told(8), 32 + 5 * 4);
+        for (int point = 1; point < 7; point++) {
+            due("below stays", runsOf(x, point, 0), (point + 1) + " " + (point + 11));
+            due("above stays", runsOf(x, point, 1), point == 4 ? "30 31 32 33 34 35" : (point + 21) + " " + (point + 1));
         }
     }
 
@@ -961,6 +977,7 @@ public final class TermsTest extends Checks {
         check("way 0 or 1", TermsTest::waysNoughtAndOne);
         check("6 runs at most", TermsTest::sixRunsAtMost);
         check("6 of each point and way", TermsTest::sixOfEachPointAndWay);
+        check("the oldest one of a point and way goes", TermsTest::theOldestOfOneAlone);
         check("mean 0, if there is none", TermsTest::meanOfNoneIsNought);
         check("mean of the runs, a fraction", TermsTest::meanIsAFraction);
         check("the text, 200 letters at most", TermsTest::textOfTwoHundred);
