@@ -759,6 +759,11 @@ public final class TermsTest extends Checks {
         due("0 is below the first", first.placeOf(0), 0);
         due("the first", first.placeOf(30), 0);
         due("above the first", first.placeOf(31), 2);
+        AxisTable below = wanting(10, -40, -30);
+        due("the last, below 0", below.placeOf(-30), 10);
+        due("above the last, below 0", below.placeOf(-29), NONE);
+        due("0 is above the last", below.placeOf(0), NONE);
+        due("above the last", below.placeOf(1), NONE);
     }
 
     private static void moveTakesUpThePlay(AxisTable x) {
@@ -967,6 +972,18 @@ public final class TermsTest extends Checks {
         due("play", playOf(x), "-7/6");
     }
 
+    /** Sixths, fifths and quarters together leave nothing to divide by. */
+    private static void partsThatAreInLowestTermsAlready(AxisTable x) {
+        String sixth = "at0up1;at0up0;at0up0;at0up0;at0up0;at0up0;";
+        AxisTable play = told(sixth + "at1up1;at1up0;at1up0;at1up0;at1up0;at2up1;at2up0;at2up0;at2up0");
+        due("play", playOf(play), "37/180");
+        AxisTable pooled = told("axis 2 10;" + sixth + "at0down1;at0down0;at0down0;at0down0;at0down0;"
+                + "at1up20;at1up21;at1up21;at1up21");
+        due("sizes", tableOf(pooled, 2), "2 2");
+        due("pool's mean", fraction(pooled, 0, 4), "-67/240");
+        due("pool's mean", fraction(pooled, 1, 4), "-67/240");
+    }
+
     public static void main(String[] args) {
         check("3 points at first", TermsTest::threePointsAtFirst);
         check("n 2 .. 8", TermsTest::pointsTwoToEight);
@@ -1040,6 +1057,7 @@ public final class TermsTest extends Checks {
         check("labels of 0 to 24 letters", TermsTest::labelsOfNoneTo24Letters);
         check("letters 32 .. 126", TermsTest::labelsOfLetters32To126);
         check("parts in lowest terms", TermsTest::partsInLowestTerms);
+        check("parts in lowest terms already", TermsTest::partsThatAreInLowestTermsAlready);
         finish();
     }
 }
