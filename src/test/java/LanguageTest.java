@@ -26,6 +26,12 @@ public final class LanguageTest {
         "\\bsynchronized\\b", "\\bimport\\b", "\\bpackage\\b", "->", "::", "\\w+Exact\\b", "\\bSystem\\.(?!arraycopy)",
         "\\bThread\\b", "\\bstatic\\s*\\{", "\\binstanceof\\b", "\\bfloat\\b", "\\bdouble\\b"};
 
+    /** Of the library's static functions, those that the class needs; a new one is looked up in LANGUAGE.md first. */
+    private static final Set<String> LIBRARY = Set.of("Math.abs", "Math.floorDiv", "Math.max", "Math.min",
+            "Integer.compare", "System.arraycopy");
+    private static final Pattern LIBRARY_CALL = Pattern.compile(
+            "\\b(?:Math|StrictMath|Integer|Long|Short|Byte|Character|Boolean|Double|Float|String|Arrays|List|System)\\.\\w+");
+
     private static int wrong = 0;
 
     private static void due(boolean holds, String what) {
@@ -101,6 +107,10 @@ public final class LanguageTest {
         for (String pattern : FORBIDDEN) {
             Matcher matcher = Pattern.compile(pattern).matcher(bare);
             due(!matcher.find(), "no " + pattern + " in the source");
+        }
+        Matcher library = LIBRARY_CALL.matcher(bare);
+        while (library.find()) {
+            due(LIBRARY.contains(library.group()), "of the library what is listed alone: " + library.group());
         }
         due(!Pattern.compile("\"\"\\s*\\+|\\+\\s*\"\"").matcher(bare).find(), "texts are not joined by +");
     }
